@@ -256,7 +256,8 @@ public final class PlateCuts {
         if (trial.wide > MOST_SIDE || trial.high > MOST_SIDE) {
             return NO;
         }
-        trialCuts.worths.reckon();
+        trialCuts.worths.layParts();
+        trialCuts.worths.cutAll(BOTH_WAYS);
         return trialCuts.worths.ofPlate() - freshCuts().worths.ofPlate();
     }
 
@@ -497,7 +498,7 @@ public final class PlateCuts {
         return (((1L << wide) - 1L) * aBitForEachRow) << (MOST_SIDE * y + x);
     }
 
-    /** Above (line 0) or below (line 1) the line of the fraction in lowest terms; above is not below 0, below is above 0. */
+    /** What is above (line 0) or below (1) the line of a fraction in lowest terms; below it is more than 0. */
     private static long lowest(long above, long below, int line) {
         long divisor = below;
         long rest = above;
@@ -621,14 +622,14 @@ public final class PlateCuts {
         }
 
         int fact(int part, int what) {
-            if (!has(part) || what < 0 || what >= PART_FACTS) {
+            if (part < 0 || part >= parts || what < 0 || what >= PART_FACTS) {
                 return NONE;
             }
             return facts[part * PART_FACTS + what];
         }
 
         void write(int part, int what, int v) {
-            if (has(part) && what >= 0 && what < PART_FACTS) {
+            if (part >= 0 && part < parts && what >= 0 && what < PART_FACTS) {
                 facts[part * PART_FACTS + what] = v;
             }
         }
@@ -745,12 +746,6 @@ public final class PlateCuts {
             return at(0, 0, setup.wide, setup.high);
         }
 
-        /** BEST of every piece. */
-        void reckon() {
-            layParts();
-            cutAll(BOTH_WAYS);
-        }
-
         /** Without any cut: the parts that the pieces are. */
         void layParts() {
             for (int high = 1; high <= setup.high; high++) {
@@ -769,7 +764,7 @@ public final class PlateCuts {
             }
         }
 
-        /** Cuts of these ways (bits), as often as one likes; smaller pieces first, as greater ones are cut into them. */
+        /** All cuts of these ways (bits), smaller pieces first, as the greater ones are cut into them: BEST, if both. */
         void cutAll(int ways) {
             for (int high = 1; high <= setup.high; high++) {
                 for (int wide = 1; wide <= setup.wide; wide++) {
@@ -848,7 +843,8 @@ public final class PlateCuts {
         }
 
         void reckon() {
-            worths.reckon();
+            worths.layParts();
+            worths.cutAll(BOTH_WAYS);
             Arrays.fill(used, 0);
             nodes = 0;
             partNodes = 0;
@@ -858,7 +854,7 @@ public final class PlateCuts {
             grow(this, 0, 0, setup.wide, setup.high, WITHOUT, 0);
         }
 
-        /** A piece becomes the next node, with all that comes of it behind it; above it are as many cuts as it is deep. */
+        /** A piece becomes the next node, with all that comes of it behind it; depth tells how many cuts are above it. */
         private static void grow(Cuts tree, int x, int y, int wide, int high, int from, int depth) {
             if (wide < 1 || high < 1 || depth > MOST_DEEP || tree.nodes >= MOST_NODES) {
                 return;
