@@ -200,11 +200,7 @@ public final class PlateCuts {
     }
 
     public int node(int node, int what) {
-        Cuts asked = freshCuts();
-        if (node < 0 || node >= asked.nodes || what < 0 || what >= NODE_FACTS) {
-            return NONE;
-        }
-        return asked.fact(node, what);
+        return freshCuts().fact(node, what);
     }
 
     public int picture(int x, int y) {

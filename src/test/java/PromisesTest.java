@@ -119,6 +119,9 @@ final class PromisesTest {
         stands(x, 3, 5, 1, 1, 2);
         due("plate(3, 5)", x.plate(3, 5), 15);
         stands(x, 3, 5, 1, 1, 0);
+        due("told(5)", x.told(5), 30);
+        x.plate(1, 5);
+        due("told(5)", x.told(5), 15);
     }
 
     private static void kerf() {
@@ -139,6 +142,7 @@ final class PromisesTest {
     private static void part() {
         promise = 4;
         PlateCuts x = new PlateCuts();
+        due("told(5)", x.told(5), 0);
         due("part(1, 7, 99, true)", x.part(1, 7, 99, true), 0);
         due("part(7, 1, 1, false)", x.part(7, 1, 1, false), 1);
         due("part(0, 1, 1, true)", x.part(0, 1, 1, true), BAD);
@@ -157,6 +161,7 @@ final class PromisesTest {
         due("of(0, 3)", x.of(0, 3), 1);
         due("of(1, 0)", x.of(1, 0), 7);
         due("of(1, 3)", x.of(1, 3), 0);
+        due("told(5)", x.told(5), 8);
     }
 
     private static void renew() {
@@ -340,6 +345,7 @@ final class PromisesTest {
         due("best(1, 0, 1, 1)", x.best(1, 0, 1, 1), 8);
         due("best(0, 0, 2, 1)", x.best(0, 0, 2, 1), 8);
         due("best(1, 1, 2, 1)", x.best(1, 1, 2, 1), 16);
+        due("the whole", x.best(0, 0, 5, 4), 152);
         due("best(4, 3, 1, 1)", x.best(4, 3, 1, 1), 8);
         x.kerf(2);
         due("with a kerf the part as it is", x.best(1, 1, 1, 2), 10);
@@ -402,6 +408,9 @@ final class PromisesTest {
         due("told(8)", z.told(8), 48);
         due("told(9)", z.told(9), 0);
         due("told(10)", z.told(10), 12);
+        z.plate(1, 4);
+        due("level cuts one under another", z.told(10), 3);
+        z.plate(7, 7);
         z.renew(0, 0, 7);
         z.renew(0, 1, 7);
         due("told(6)", z.told(6), 1);
@@ -487,6 +496,13 @@ final class PromisesTest {
         PlateCuts y = from("s21;p112;p113");
         due("picture(0, 0)", y.picture(0, 0), 1);
         due("picture(1, 0)", y.picture(1, 0), 1);
+        PlateCuts z = from("s22;p212;p111;d00");
+        due("picture(0, 0)", z.picture(0, 0), WITHOUT);
+        due("picture(1, 0)", z.picture(1, 0), 1);
+        due("picture(0, 1)", z.picture(0, 1), 1);
+        due("picture(1, 1)", z.picture(1, 1), 1);
+        PlateCuts one = from("s23;p234");
+        due("the plate is the part", one.picture(1, 2), 0);
     }
 
     private static void staged() {
@@ -533,6 +549,9 @@ final class PromisesTest {
         x.part(6, 7, 1, false);
         due("too high", x.sizes(1), 1 + 4 + 8);
         due("no part", new PlateCuts().sizes(1), 1);
+        PlateCuts ones = from("s72;p111;k1");
+        due("0 1 3 5 7", ones.sizes(0), 1 + 2 + 8 + 32 + 128);
+        due("0 1", ones.sizes(1), 1 + 2);
         due("sizes(2)", x.sizes(2), NONE);
         due("sizes(-1)", x.sizes(-1), NONE);
     }
@@ -664,6 +683,9 @@ final class PromisesTest {
         x.renew(1, 2, 2);
         due("20 by 3 above", x.mean(0), 20);
         due("below", x.mean(1), 3);
+        x.plate(2, 1);
+        due("one part above", x.mean(0), 9);
+        due("below", x.mean(1), 1);
         due("mean(2)", x.mean(2), NO);
         due("mean(-1)", x.mean(-1), NO);
         due("none is above", new PlateCuts().mean(0), NO);
@@ -736,6 +758,9 @@ final class PromisesTest {
         due("after(0)", turned.after(0), 3);
         turned.event(2, 0);
         due("may be turned", turned.after(0), 8);
+        turned.event(2, 0);
+        turned.event(2, 0);
+        due("and not, and again", turned.after(0), 8);
         turned.event(2, 1);
         turned.event(2, 0);
         due("not any more, neither of them", turned.after(0), 0);
@@ -856,15 +881,16 @@ final class PromisesTest {
         PlateCuts x = new PlateCuts();
         due("undo()", x.undo(), STATE);
         readAll(x, "s65;k1;p119;t237;d01");
-        x.see(0, 3);
+        x.see(0, 9);
         x.event(1, 54);
         x.event(2, 0);
         x.book(1, 2);
         x.image();
-        int best = x.told(5);
-        int after = x.after(0);
-        int looked = x.looked();
-        int fitting = x.fits(1, 0);
+        // a kerf of 1 leaves three strips of 1 with three of part 0 in each
+        due("told(5)", x.told(5), 81);
+        due("after(0)", x.after(0), 81);
+        due("looked()", x.looked(), 0);
+        due("fits(1, 1)", x.fits(1, 1), 1);
         x.plate(7, 7);
         x.kerf(0);
         x.renew(0, 0, 4);
@@ -877,6 +903,8 @@ final class PromisesTest {
         x.event(-1, 0);
         x.event(0, 1);
         x.book(-1, 0);
+        x.book(1, 0);
+        due("told(5)", x.told(5), x.best(0, 0, 7, 7));
         x.tape(0, 0, 3);
         x.item(0, 1, 5);
         x.feed('s');
@@ -889,10 +917,10 @@ final class PromisesTest {
         due("count(0)", x.count(0), 1);
         due("count(1)", x.count(1), 2);
         due("count(2)", x.count(2), 1);
-        due("told(5)", x.told(5), best);
-        due("after(0)", x.after(0), after);
-        due("looked()", x.looked(), looked);
-        due("fits(1, 0)", x.fits(1, 0), fitting);
+        due("told(5)", x.told(5), 81);
+        due("after(0)", x.after(0), 81);
+        due("looked()", x.looked(), 0);
+        due("fits(1, 1)", x.fits(1, 1), 1);
         due("tapes stay", x.peek(0, 1), 5);
         due("the text stays", x.count(3), 1);
         x.renew(0, 2, 1);
@@ -1037,5 +1065,9 @@ final class PromisesTest {
         due("shift(6, 0, 0, 0, 0)", x.shift(6, 0, 0, 0, 0), NONE);
         due("shift(0, 0, -1, 0, 0)", x.shift(0, 0, -1, 0, 0), NONE);
         due("NONE ahead of NOTHING", x.shift(2, 0, 6, 0, 0), NONE);
+        x.tape(4, 0, 60);
+        x.item(4, 59, 9);
+        due("the longest", x.shift(4, 1, 4, 0, 59), 59);
+        due("peek(4, 58)", x.peek(4, 58), 9);
     }
 }
