@@ -410,6 +410,10 @@ final class PromisesTest {
         due("told(10)", z.told(10), 12);
         z.plate(1, 4);
         due("level cuts one under another", z.told(10), 3);
+        PlateCuts deepFirst = from("s22;p219;p111;d00");
+        due("level, and the first one upright", deepFirst.told(10), 2);
+        due("told(6)", deepFirst.told(6), 5);
+        due("told(9)", deepFirst.told(9), 1);
         z.plate(7, 7);
         z.renew(0, 0, 7);
         z.renew(0, 1, 7);
@@ -1021,6 +1025,7 @@ final class PromisesTest {
         due("peek(-1, 0)", x.peek(-1, 0), NO);
         x.tape(0, -1, 0);
         due("nothing there", x.peek(0, 2), NO);
+        due("nothing there", x.peek(0, 0), NO);
     }
 
     private static void items(PlateCuts x, int tape, long... due) {
