@@ -1,46 +1,7 @@
 /** Each promise of the document by its number: ordinary calls, edges, wrong ones; the answers were worked out by hand. */
-final class PromisesTest {
-    private static final int NONE = -1, BAD = -2, STATE = -3, FULL = -4, WITHOUT = -5;
-    private static final int NOTHING = -11, CAST = -12, PLACE = -13, SIZE = -14;
-    private static final long NO = Long.MIN_VALUE;
-    private static final int LEAST = Integer.MIN_VALUE, MOST = Integer.MAX_VALUE;
-
-    private static final Check CHECK = new Check("PromisesTest");
-    private static int promise;
-
-    private static void due(String call, long got, long want) {
-        CHECK.due("promise " + promise + ": " + call, got, want);
-    }
-
-    /** Looks at what is told of the plate, the kerf, the parts, the defects. */
-    private static void stands(PlateCuts x, int wide, int high, int kerf, int parts, int defects) {
-        due("told(0)", x.told(0), wide);
-        due("told(1)", x.told(1), high);
-        due("told(2)", x.told(2), kerf);
-        due("told(3)", x.told(3), parts);
-        due("told(4)", x.told(4), defects);
-    }
-
-    private static int feedAll(PlateCuts x, String signs) {
-        int last = 0;
-        for (int i = 0; i < signs.length(); i++) {
-            last = x.feed(signs.charAt(i));
-        }
-        return last;
-    }
-
-    private static int readAll(PlateCuts x, String signs) {
-        feedAll(x, signs);
-        return x.read();
-    }
-
-    private static PlateCuts from(String setup) {
-        PlateCuts x = new PlateCuts();
-        CHECK.holds("the set-up " + setup + " is read", readAll(x, setup) > 0);
-        return x;
-    }
-
+final class PromisesTest extends Sentences {
     public static void main(String[] args) {
+        begin("PromisesTest");
         newObject();
         plate();
         kerf();
@@ -79,11 +40,11 @@ final class PromisesTest {
         item();
         peek();
         shift();
-        CHECK.finish();
+        finish();
     }
 
     private static void newObject() {
-        promise = 1;
+        sentence("promise 1");
         PlateCuts x = new PlateCuts();
         stands(x, 4, 4, 0, 0, 0);
         due("told(5)", x.told(5), 0);
@@ -103,7 +64,7 @@ final class PromisesTest {
     }
 
     private static void plate() {
-        promise = 2;
+        sentence("promise 2");
         PlateCuts x = from("k1;p115");
         due("plate(1, 1)", x.plate(1, 1), 1);
         due("plate(7, 7)", x.plate(7, 7), 49);
@@ -125,7 +86,7 @@ final class PromisesTest {
     }
 
     private static void kerf() {
-        promise = 3;
+        sentence("promise 3");
         PlateCuts x = from("s31;p115");
         due("told(5)", x.told(5), 15);
         due("kerf(1)", x.kerf(1), 0);
@@ -140,7 +101,7 @@ final class PromisesTest {
     }
 
     private static void part() {
-        promise = 4;
+        sentence("promise 4");
         PlateCuts x = new PlateCuts();
         due("told(5)", x.told(5), 0);
         due("part(1, 7, 99, true)", x.part(1, 7, 99, true), 0);
@@ -165,7 +126,7 @@ final class PromisesTest {
     }
 
     private static void renew() {
-        promise = 5;
+        sentence("promise 5");
         PlateCuts x = from("s22;p221;p119");
         due("told(5)", x.told(5), 36);
         due("renew(1, 0, 2)", x.renew(1, 0, 2), 1);
@@ -193,7 +154,7 @@ final class PromisesTest {
     }
 
     private static void turn() {
-        promise = 6;
+        sentence("promise 6");
         PlateCuts x = from("s13;p314");
         due("told(5)", x.told(5), 0);
         due("turn(0, true)", x.turn(0, true), 0);
@@ -207,7 +168,7 @@ final class PromisesTest {
     }
 
     private static void of() {
-        promise = 7;
+        sentence("promise 7");
         PlateCuts x = from("s52;t235;p117");
         due("of(0, 0)", x.of(0, 0), 2);
         due("of(0, 1)", x.of(0, 1), 3);
@@ -228,7 +189,7 @@ final class PromisesTest {
     }
 
     private static void defect() {
-        promise = 8;
+        sentence("promise 8");
         PlateCuts x = from("s32;p111");
         due("defect(3, 0)", x.defect(3, 0), NONE);
         due("defect(0, 2)", x.defect(0, 2), NONE);
@@ -250,7 +211,7 @@ final class PromisesTest {
     }
 
     private static void mend() {
-        promise = 9;
+        sentence("promise 9");
         PlateCuts x = from("s22;p111;d00;d11");
         due("told(5)", x.told(5), 2);
         due("mend()", x.mend(), 2);
@@ -261,7 +222,7 @@ final class PromisesTest {
     }
 
     private static void feed() {
-        promise = 10;
+        sentence("promise 10");
         PlateCuts x = new PlateCuts();
         due("feed(-1)", x.feed(-1), BAD);
         due("feed(128)", x.feed(128), BAD);
@@ -280,7 +241,7 @@ final class PromisesTest {
     }
 
     private static void read() {
-        promise = 11;
+        sentence("promise 11");
         PlateCuts x = new PlateCuts();
         due("s57", readAll(x, "s57"), 1);
         due("count(3)", x.count(3), 0);
@@ -306,7 +267,7 @@ final class PromisesTest {
     }
 
     private static void readFaults() {
-        promise = 11;
+        sentence("promise 11");
         PlateCuts x = new PlateCuts();
         due("read() of nothing", x.read(), -10);
         due("s", readAll(x, "s"), -11);
@@ -339,7 +300,7 @@ final class PromisesTest {
     }
 
     private static void best() {
-        promise = 12;
+        sentence("promise 12");
         PlateCuts x = from("s54;p217;p1210;p118;d00");
         due("best(0, 0, 1, 1)", x.best(0, 0, 1, 1), 0);
         due("best(1, 0, 1, 1)", x.best(1, 0, 1, 1), 8);
@@ -365,7 +326,7 @@ final class PromisesTest {
     }
 
     private static void is() {
-        promise = 13;
+        sentence("promise 13");
         PlateCuts x = from("s44;t321;p235;p239;d33");
         due("is(0, 0, 2, 3)", x.is(0, 0, 2, 3), 0);
         due("is(0, 0, 3, 2)", x.is(0, 0, 3, 2), 0);
@@ -382,7 +343,7 @@ final class PromisesTest {
     }
 
     private static void told() {
-        promise = 14;
+        sentence("promise 14");
         PlateCuts x = from("s53;k1;p229;d00");
         // upright at 1: 1 by 3 is waste; 3 by 3 from x = 2 on upright at 2, level at 2: the part, and nothing more
         stands(x, 5, 3, 1, 1, 1);
@@ -423,9 +384,9 @@ final class PromisesTest {
     }
 
     private static void node() {
-        promise = 15;
-        PlateCuts x = from("s43;k1;p129;d33");
-        // defect(3, 3) was refused; upright at 1: 1 by 3, then 2 by 3 from x = 2 on
+        sentence("promise 15");
+        PlateCuts x = from("s43;k1;p129");
+        // upright at 1: 1 by 3, then 2 by 3 from x = 2 on
         int[][] due = {
             {2, 0, 0, 4, 3, 1, WITHOUT, 18},
             {3, 0, 0, 1, 3, 2, 0, 9},
@@ -449,17 +410,8 @@ final class PromisesTest {
         looksSo(y, wasteFirst);
     }
 
-    private static void looksSo(PlateCuts x, int[][] due) {
-        due("told(6)", x.told(6), due.length);
-        for (int node = 0; node < due.length; node++) {
-            for (int what = 0; what < 8; what++) {
-                due("node(" + node + ", " + what + ")", x.node(node, what), due[node][what]);
-            }
-        }
-    }
-
     private static void nodeChoices() {
-        promise = 15;
+        sentence("promise 15");
         PlateCuts same = from("s22;p223;p225;p225;p111");
         due("of several as dear the least", same.node(0, 5), 1);
         due("a part", same.node(0, 0), 1);
@@ -479,7 +431,7 @@ final class PromisesTest {
     }
 
     private static void picture() {
-        promise = 16;
+        sentence("promise 16");
         PlateCuts x = from("s43;k1;p129;p114");
         // upright at 1 (1 by 3: part 0, or 1 + 1 by a kerf: 8), the second from x = 2 on likewise
         int[][] rows = {
@@ -510,7 +462,7 @@ final class PromisesTest {
     }
 
     private static void staged() {
-        promise = 17;
+        sentence("promise 17");
         // a strip of 3 by 1, and below it three of 1 by 2: level first, then upright
         PlateCuts x = from("s33;p315;p127");
         due("staged(1, 0)", x.staged(1, 0), 0);
@@ -539,7 +491,7 @@ final class PromisesTest {
     }
 
     private static void sizes() {
-        promise = 18;
+        sentence("promise 18");
         PlateCuts x = from("s75;p231");
         due("0 2 4 6", x.sizes(0), 1 + 4 + 16 + 64);
         due("0 3", x.sizes(1), 1 + 8);
@@ -561,7 +513,7 @@ final class PromisesTest {
     }
 
     private static void more() {
-        promise = 19;
+        sentence("promise 19");
         PlateCuts x = from("s36;p223;p172");
         due("more(0)", x.more(0), 9);
         due("three of 2 by 2, and one of 1 by 7", x.more(1), 2);
@@ -570,7 +522,7 @@ final class PromisesTest {
         PlateCuts y = from("s71;p719;p124");
         due("more(0)", y.more(0), NO);
         due("more(1)", y.more(1), 19);
-        PlateCuts z = from("s22;p335;d22;d11");
+        PlateCuts z = from("s22;p335;d11");
         due("a defect stays", z.more(0), 0);
         z.mend();
         due("more(1)", z.more(1), 0);
@@ -587,7 +539,7 @@ final class PromisesTest {
     }
 
     private static void bound() {
-        promise = 20;
+        sentence("promise 20");
         PlateCuts x = from("s43;p327");
         due("7 / 6 * 12 above", x.bound(0), 14);
         due("below", x.bound(1), 1);
@@ -604,7 +556,7 @@ final class PromisesTest {
     }
 
     private static void see() {
-        promise = 21;
+        sentence("promise 21");
         PlateCuts x = from("p111");
         due("see(1, 0)", x.see(1, 0), NONE);
         due("see(-2, 0)", x.see(-2, 0), NONE);
@@ -625,7 +577,7 @@ final class PromisesTest {
     }
 
     private static void fits() {
-        promise = 22;
+        sentence("promise 22");
         PlateCuts x = from("s21;p215;p119");
         // two of part 1 are worth more than part 0 from 3 on; at 1 and 2 part 0 is taken
         due("without anything seen all fit", x.fits(1, 0), 20);
@@ -655,7 +607,7 @@ final class PromisesTest {
     }
 
     private static void odds() {
-        promise = 23;
+        sentence("promise 23");
         PlateCuts x = from("s21;p215;p112");
         // part 0 against 2 + 2: used from 4 on; part 1 against 5: used from 3 on
         due("odds(0, 0)", x.odds(0, 0), 7);
@@ -676,7 +628,7 @@ final class PromisesTest {
     }
 
     private static void mean() {
-        promise = 24;
+        sentence("promise 24");
         PlateCuts x = from("s51;p214;p113");
         // five of part 1 are more than two of part 0 and one
         due("mean(0)", x.mean(0), 3);
@@ -697,7 +649,7 @@ final class PromisesTest {
     }
 
     private static void event() {
-        promise = 25;
+        sentence("promise 25");
         PlateCuts x = from("s32;p111");
         due("event(4, 0)", x.event(4, 0), NONE);
         due("event(-2, 0)", x.event(-2, 0), NONE);
@@ -730,7 +682,7 @@ final class PromisesTest {
     }
 
     private static void after() {
-        promise = 26;
+        sentence("promise 26");
         PlateCuts x = from("s32;p119");
         due("no events: best", x.after(0), 54);
         due("no events: wasted", x.after(1), 0);
@@ -779,7 +731,7 @@ final class PromisesTest {
     }
 
     private static void book() {
-        promise = 27;
+        sentence("promise 27");
         PlateCuts x = from("p111");
         due("book(1, 0)", x.book(1, 0), NONE);
         due("book(-2, 0)", x.book(-2, 0), NONE);
@@ -799,7 +751,7 @@ final class PromisesTest {
     }
 
     private static void looked() {
-        promise = 28;
+        sentence("promise 28");
         PlateCuts x = from("s31;p219;p112");
         due("empty", x.looked(), WITHOUT);
         x.book(0, 1);
@@ -817,7 +769,7 @@ final class PromisesTest {
     }
 
     private static void judge() {
-        promise = 29;
+        sentence("promise 29");
         PlateCuts x = from("s32;p314;p113;d00");
         // upright at 1: 1 by 2 with a bad square, cut level; 2 by 2: upright at 1, both cut level
         long[] told = {201, 301, 0, 101, 201, 301, 101, 101, 301, 101, 101};
@@ -866,7 +818,7 @@ final class PromisesTest {
     }
 
     private static void image() {
-        promise = 30;
+        sentence("promise 30");
         PlateCuts x = from("s65;k1;p111;t239;d01");
         x.see(0, 3);
         x.event(0, 2);
@@ -881,7 +833,7 @@ final class PromisesTest {
     }
 
     private static void undo() {
-        promise = 31;
+        sentence("promise 31");
         PlateCuts x = new PlateCuts();
         due("undo()", x.undo(), STATE);
         readAll(x, "s65;k1;p119;t237;d01");
@@ -935,7 +887,7 @@ final class PromisesTest {
     }
 
     private static void count() {
-        promise = 32;
+        sentence("promise 32");
         PlateCuts x = from("p111");
         x.see(0, 1);
         x.event(0, 1);
@@ -953,7 +905,7 @@ final class PromisesTest {
     }
 
     private static void tape() {
-        promise = 33;
+        sentence("promise 33");
         PlateCuts x = new PlateCuts();
         for (int sort = 0; sort <= 4; sort++) {
             due("tape(5, " + sort + ", 60)", x.tape(5, sort, 60), 1);
@@ -982,7 +934,7 @@ final class PromisesTest {
     }
 
     private static void item() {
-        promise = 34;
+        sentence("promise 34");
         PlateCuts x = new PlateCuts();
         long v = 0x123456789ABCDEF0L;
         long[] kept = {(byte) 0xF0, (short) 0xDEF0, (int) 0x9ABCDEF0L, v, 1};
@@ -1012,7 +964,7 @@ final class PromisesTest {
     }
 
     private static void peek() {
-        promise = 35;
+        sentence("promise 35");
         PlateCuts x = new PlateCuts();
         x.tape(0, 3, 3);
         x.item(0, 2, -7);
@@ -1035,7 +987,7 @@ final class PromisesTest {
     }
 
     private static void shift() {
-        promise = 36;
+        sentence("promise 36");
         PlateCuts x = new PlateCuts();
         x.tape(0, 2, 5);
         x.tape(1, 2, 3);
