@@ -41,9 +41,9 @@ final class CutsBoundsTest extends Sentences {
 
     private static void piecesOnThePlate() {
         sentence("A PIECE: all squares from x, y on, so wide, so high, all on THE PLATE; best, is: NONE: there is no such");
-        PlateCuts a = from("s32;p711");
         for (int x = -1; x <= 4; x++) {
             for (int y = -1; y <= 3; y++) {
+                PlateCuts a = from("s32;p711");
                 for (int wide = -1; wide <= 4; wide++) {
                     for (int high = -1; high <= 3; high++) {
                         boolean there = x >= 0 && y >= 0 && wide >= 1 && high >= 1 && x + wide <= 3 && y + high <= 2;

@@ -2,14 +2,17 @@ import java.util.Random;
 
 /** Random runs of calls, good and wrong ones, on the program and on the model: all answers are alike. */
 final class ModelTest {
-    private static final int RUNS = 1500;
-    private static final int CALLS = 150;
+    private static final int RUNS = 5000;
+    /** No step begins behind so many calls, so that the longest one and the last look stay within 512. */
+    private static final int CALLS_OF_STEPS = 150;
+    private static final int NODES_LOOKED_AT = 20;
 
     private final Check check;
     private final Random random;
     private final PlateCuts program = new PlateCuts();
     private final Model model = new Model();
     private String run;
+    private int calls;
 
     private ModelTest(Check check, long seed) {
         this.check = check;
@@ -21,7 +24,7 @@ final class ModelTest {
         Check check = new Check("ModelTest");
         for (int seed = 0; seed < RUNS && check.wrong() == 0; seed++) {
             ModelTest test = new ModelTest(check, seed);
-            for (int i = 0; i < CALLS && check.wrong() == 0; i++) {
+            while (test.calls < CALLS_OF_STEPS && check.wrong() == 0) {
                 test.step();
             }
             test.lookAtAll();
@@ -31,6 +34,7 @@ final class ModelTest {
 
     private void same(String call, long got, long want) {
         run += " " + call;
+        calls++;
         if (got != want) {
             check.due(run, got, want);
         } else {
@@ -280,7 +284,7 @@ final class ModelTest {
             same("told(" + what + ")", program.told(what), model.told(what));
         }
         int nodes = model.told(6);
-        for (int node = 0; node <= nodes && node < 30; node++) {
+        for (int node = 0; node <= nodes && node < NODES_LOOKED_AT; node++) {
             for (int what = 0; what <= 7; what++) {
                 same("node(" + node + "," + what + ")", program.node(node, what), model.node(node, what));
             }

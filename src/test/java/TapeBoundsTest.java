@@ -634,10 +634,10 @@ final class TapeBoundsTest extends Sentences {
 
     private static void shiftPlaces() {
         sentence("shift: PLACE: n, i or j is below 0, or beyond either's end");
-        PlateCuts x = new PlateCuts();
         for (int i = -1; i <= 5; i++) {
             for (int j = -1; j <= 4; j++) {
                 for (int n = -1; n <= 5; n++) {
+                    PlateCuts x = new PlateCuts();
                     x.tape(0, INTS, 4);
                     x.tape(1, INTS, 3);
                     x.item(0, 3, 7);
@@ -647,6 +647,9 @@ final class TapeBoundsTest extends Sentences {
                 }
             }
         }
+        PlateCuts x = new PlateCuts();
+        x.tape(0, INTS, 4);
+        x.tape(1, INTS, 3);
         int[] far = {LEAST, LEAST + 1, MOST - 1, MOST};
         for (int v : far) {
             due("i " + v, x.shift(0, v, 1, 0, 1), PLACE);

@@ -196,14 +196,15 @@ final class TextBoundsTest extends Sentences {
 
     private static void faultOfManyClauses() {
         sentence("FAULT: its place is counted from THE TEXT's beginning, up to its end");
-        PlateCuts x = new PlateCuts();
         for (int at = 0; at <= 11; at++) {
+            PlateCuts x = new PlateCuts();
             String before = repeat("d00;", at, "");
             due("a fault in clause " + at, readAll(x, before + "x"), -10 - 4 * at);
             due("clause " + at + " is not there", readAll(x, before), -10 - 4 * at);
         }
-        due("the 100th byte", feedAll(x, repeat("d", 100, "")), 100);
-        due("but the second is none", x.read(), -11);
+        PlateCuts full = new PlateCuts();
+        due("the 100th byte", feedAll(full, repeat("d", 100, "")), 100);
+        due("but the second is none", full.read(), -11);
     }
 
     private static void emptyBehindRead() {
