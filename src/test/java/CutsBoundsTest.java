@@ -15,6 +15,7 @@ final class CutsBoundsTest extends Sentences {
         greatestWorthOfSeveral();
         firstAndLastUprightCut();
         firstAndLastLevelCut();
+        noCutAtNothing();
         oneSquareWide();
         kerfLeavesNothing();
         kerfIsNobodys();
@@ -196,6 +197,30 @@ final class CutsBoundsTest extends Sentences {
         due("the first alone", from("s17;p169;d00").node(0, NUMBER), 1);
         due("the last alone", from("s17;p169;d06").node(0, NUMBER), 6);
         due("the last is the first of two", from("s12;p119;d01").node(0, NUMBER), 1);
+    }
+
+    private static void noCutAtNothing() {
+        sentence("0 UPRIGHT (1 .. ), 1 LEVEL (1 .. ): none at 0, by which the saw would eat just the strip that is bad");
+        for (int kerf = 1; kerf <= 2; kerf++) {
+            PlateCuts upright = from("p219;k" + kerf);
+            upright.plate(2 + kerf, 1);
+            upright.defect(0, 0);
+            due("upright, kerf " + kerf, upright.told(5), 0);
+            due("upright, kerf " + kerf, upright.staged(1, 0), 0);
+            due("upright, kerf " + kerf, upright.told(6), 1);
+            upright.plate(3 + kerf, 1);
+            upright.defect(0, 0);
+            due("upright with a square more, kerf " + kerf, upright.told(5), 9);
+            PlateCuts level = from("p129;k" + kerf);
+            level.plate(1, 2 + kerf);
+            level.defect(0, 0);
+            due("level, kerf " + kerf, level.told(5), 0);
+            due("level, kerf " + kerf, level.staged(1, 1), 0);
+            due("level, kerf " + kerf, level.told(6), 1);
+            level.plate(1, 3 + kerf);
+            level.defect(0, 0);
+            due("level with a square more, kerf " + kerf, level.told(5), 9);
+        }
     }
 
     private static void oneSquareWide() {
